@@ -413,11 +413,14 @@ public final class ServiceRows {
         return hasOverdueRule(vehicle) ? 5 : 0;
     }
 
+    /** The least share is -1 / 10 or less just when one of the shares is. */
     private boolean hasOverdueRule(int vehicle) {
         for (int rule = 0; rule < rules.size(); rule++) {
-            int what = leastBy(vehicle, rule);
-            if (10 * leftBy(vehicle, rule, what) <= -rules.interval(rule, what)) {
-                return true;
+            for (int what = 0; what < MEASURES; what++) {
+                if (rules.isBy(rule, what)
+                        && 10 * leftBy(vehicle, rule, what) <= -rules.interval(rule, what)) {
+                    return true;
+                }
             }
         }
         return false;

@@ -377,6 +377,7 @@ public final class ServiceRowsPromises {
         ServiceRows x = withVehicles(2);
         x.rule(1, 0, 0);
         x.rule(1, 0, 0);
+        x.rule(1, 0, 0);
         x.defect(0, false);
         x.defect(1, true);
         x.defect(0, true);
@@ -384,7 +385,7 @@ public final class ServiceRowsPromises {
         refuses("13: order -1", UNKNOWN, () -> x.work(-1, true, 0));
         refuses("13: order 1", UNKNOWN, () -> x.work(1, true, 0));
         refuses("13: rule -1", UNKNOWN, () -> x.work(0, true, -1));
-        refuses("13: rule 2", UNKNOWN, () -> x.work(0, true, 2));
+        refuses("13: rule 3", UNKNOWN, () -> x.work(0, true, 3));
         refuses("13: defect -1", UNKNOWN, () -> x.work(0, false, -1));
         refuses("13: defect 3", UNKNOWN, () -> x.work(0, false, 3));
         is("13: a rule", 1, () -> x.work(0, true, 1));
@@ -395,8 +396,8 @@ public final class ServiceRowsPromises {
         refuses("13: the defect again", STATE, () -> x.work(0, false, 0));
         refuses("13: another vehicle's", STATE, () -> x.work(0, false, 1));
         x.done(0);
-        refuses("13: done", STATE, () -> x.work(0, true, 0));
-        refuses("13: unknown goes before state", UNKNOWN, () -> x.work(0, true, 2));
+        refuses("13: done", STATE, () -> x.work(0, true, 2));
+        refuses("13: unknown goes before state", UNKNOWN, () -> x.work(0, true, 3));
         x.order(0);
         refuses("13: a defect that is gone", STATE, () -> x.work(1, false, 0));
         refuses("13: a defect that is repaired", STATE, () -> x.work(1, false, 2));
@@ -653,6 +654,10 @@ public final class ServiceRowsPromises {
         refuses("21: no kilometres, lower number", NO_KILOMETRES, () -> x.oilPer(0, 1));
         x.read(0, 0, 10);
         refuses("21: hours alone", NO_KILOMETRES, () -> x.oilPer(0, 0));
+        x.vehicle(0, false);
+        x.oil(1, 5);
+        refuses("21: oil, but no kilometres", NO_KILOMETRES, () -> x.oilPer(1, 0));
+        refuses("21: oil, lower number", NO_KILOMETRES, () -> x.oilPer(1, 1));
         x.read(0, 700, 10);
         is("21: no oil, upper", 0, () -> x.oilPer(0, 0));
         is("21: no oil, lower", 1, () -> x.oilPer(0, 1));
@@ -718,6 +723,59 @@ public final class ServiceRowsPromises {
         is("23: one barred less", 2, () -> x.count(4));
     }
 
+    /** With every row full the last places are used and nothing behind them. */
+    private static void fullRows() {
+        ServiceRows x = new ServiceRows();
+        for (int v = 0; v < 30; v++) {
+            x.vehicle(v % 10, v == 29 || v == 3);
+        }
+        for (int r = 0; r < 10; r++) {
+            x.rule(10, 10, 10);
+        }
+        for (int d = 0; d < 100; d++) {
+            x.defect(d < 98 ? 0 : 29, d != 98);
+        }
+        for (int o = 0; o < 59; o++) {
+            x.order(1);
+            x.done(o);
+        }
+        x.read(29, 12, 12);
+        x.day(9);
+        for (int what = 0; what < 3; what++) {
+            int w = what;
+            is("full: left", w == 2 ? 1 : -2, () -> x.left(29, 9, w));
+        }
+        is("full: due", 2900, () -> x.due(0));
+        is("full: due, the last", 2909, () -> x.due(9));
+        is("full: due, none", -1, () -> x.due(10));
+        is("full: the only spare that is not barred", 3, () -> x.spare(28));
+        is("full: for that one there is none", -1, () -> x.spare(3));
+        is("full: the last order", 59, () -> x.order(29));
+        for (int r = 0; r < 10; r++) {
+            int rule = r;
+            is("full: work", r + 1, () -> x.work(59, true, rule));
+        }
+        is("full: a small defect", 11, () -> x.work(59, false, 98));
+        is("full: a severe defect", 12, () -> x.work(59, false, 99));
+        x.warranty(29, 99, 99999);
+        x.certificate(29, 4, 9);
+        is("full: part", 0, () -> x.part(59, 99, 100, 1000000));
+        is("full: open orders", 1, () -> x.count(2));
+        is("full: done", 0, () -> x.done(59));
+        is("full: none open", 0, () -> x.count(2));
+        is("full: served", 10, () -> x.left(29, 9, 2));
+        is("full: gone", 2, () -> x.defectAt(98, 0));
+        is("full: repaired", 1, () -> x.defectAt(99, 0));
+        is("full: to be tested", 1, () -> x.barred(29));
+        is("full: test", 1, () -> x.test(29, 0, 0, 0) ? 1 : 0);
+        is("full: tested", 2, () -> x.defectAt(99, 0));
+        is("full: certificate", 3, () -> x.barred(29));
+        x.certificate(29, 4, -1);
+        is("full: free", 0, () -> x.barred(29));
+        is("full: barred", 1, () -> x.count(4));
+        is("full: the last spare is the nearest", 29, () -> x.spare(28));
+    }
+
     public static void main(String[] args) {
         promise1NewObject();
         promise2Vehicle();
@@ -747,6 +805,7 @@ public final class ServiceRowsPromises {
         promise21OilPer();
         promise22DefectAt();
         promise23Count();
+        fullRows();
         System.out.println(calls + " calls, " + wrong + " wrong");
         if (wrong != 0) {
             System.exit(1);
