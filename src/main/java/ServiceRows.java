@@ -436,7 +436,7 @@ public final class ServiceRows {
         return found;
     }
 
-    /** Euclid's way; with b above 0 the answer is above 0, and a few dozen steps are enough. */
+    /** Euclid's way, in a few dozen steps; never below 1, so that it can always divide. */
     private static long commonDivisor(long a, long b) {
         long divisor = a;
         long rest = b;
@@ -445,7 +445,7 @@ public final class ServiceRows {
             divisor = rest;
             rest = next;
         }
-        return divisor;
+        return Math.max(divisor, 1);
     }
 
     /** The vehicles with what is known of each of them alone. */

@@ -17,6 +17,10 @@ public final class ServiceRowsBoundaries {
     private static int wrong = 0;
 
     private static void sentence(String text, Object... script) {
+        sentenceOf(MOST_CALLS, text, script);
+    }
+
+    private static void sentenceOf(int mostCalls, String text, Object... script) {
         sentences++;
         ServiceRows x = new ServiceRows();
         int calls = 0;
@@ -28,8 +32,8 @@ public final class ServiceRowsBoundaries {
             }
             calls++;
             check(text, x, line);
-            if (calls > MOST_CALLS) {
-                report(text, line, "is a call behind the 512th");
+            if (calls > mostCalls) {
+                report(text, line, "is one call too many for the test");
             }
         }
     }
@@ -173,13 +177,29 @@ public final class ServiceRowsBoundaries {
                 "new", "vehicle(0, false)", "rule(0, 100000, 0)", "rule(0, 0, 3)",
                 "rule(99998, 0, 0)", "day(4)", "read(0, 133331, 133333)",
                 "due(0) -> 2", "due(1) -> 1", "due(2) -> 0");
+        // -8 - 1/99999 is less than -8 - 1/100000 by a ten thousand millionth
+        sentence("Terms: the SHARE is exact for fractions that are as near as can be",
+                "vehicle(0, false)", "rule(0, 100000, 0)", "rule(99999, 0, 0)",
+                "read(0, 899992, 900001)", "due(0) -> 1", "due(1) -> 0",
+                "read(0, 899992, 900002)", "due(0) -> 0", "due(1) -> 1");
         // crosswise products of some 90,000,000,000
         sentence("Terms: the SHARE is exact for the largest numbers",
                 "vehicle(0, false)", "rule(100000, 0, 0)", "rule(0, 99999, 0)",
                 "read(0, 1000000, 999990)", "due(0) -> 0", "due(1) -> 1",
                 "read(0, 1000000, 999991)", "due(0) -> 1", "due(1) -> 0",
                 "new", "vehicle(0, false)", "rule(1, 0, 0)", "rule(0, 100000, 0)",
-                "read(0, 1000000, 1000000)", "due(0) -> 0", "due(1) -> 1", "due(2) -> -1");
+                "read(0, 1000000, 1000000)", "due(0) -> 0", "due(1) -> 1", "due(2) -> -1",
+                "new", vehicles(3), "rule(100000, 0, 0)", "read(0, 100001, 0)",
+                "read(1, 1000000, 0)", "read(2, 300000, 0)", "due(0) -> 100", "due(1) -> 200",
+                "due(2) -> 0");
+        sentence("Terms: the SHARE is the least, for the largest numbers",
+                "vehicle(0, false)", "rule(0, 0, 10)", "rule(100000, 100000, 0)", "day(60)",
+                "read(0, 1000000, 100001)", "due(0) -> 1", "due(1) -> 0",
+                "new", "vehicle(0, false)", "rule(0, 0, 10)", "rule(100000, 100000, 0)",
+                "day(60)", "read(0, 100001, 1000000)", "due(0) -> 1", "due(1) -> 0",
+                "new", "vehicle(0, false)", "rule(0, 10, 0)", "rule(100000, 0, 1)", "day(99999)",
+                "read(0, 1000000, 999989)", "due(0) -> 1", "due(1) -> 0",
+                "read(0, 1000000, 999990)", "due(0) -> 0", "due(1) -> 1");
     }
 
     private static void termsDefectsAndCertificates() {
@@ -240,6 +260,17 @@ public final class ServiceRowsBoundaries {
                 "vehicle(0, false)", "rule(10, 10, 10)", "order(0)", "work(0, true, 0)",
                 "read(0, 3, 4)", "day(5)", "left(0, 0, 0) -> 7", "done(0)",
                 "left(0, 0, 0) -> 10", "left(0, 0, 1) -> 10", "left(0, 0, 2) -> 10");
+        sentence("Terms: the rules of an order have had their service, and no others",
+                vehicles(2), "0..9: rule(10, 0, 0) -> #", "read(0, 3, 0)", "read(1, 4, 0)",
+                "order(0)", "order(1)", "work(0, true, 9)", "work(1, true, 0)", "done(0)",
+                "left(0, 0, 0) -> 7", "left(0, 8, 0) -> 7", "left(0, 9, 0) -> 10",
+                "left(1, 0, 0) -> 6", "left(1, 9, 0) -> 6", "done(1)", "left(1, 0, 0) -> 10",
+                "left(1, 1, 0) -> 6", "left(0, 0, 0) -> 7");
+        sentence("Terms: the last of 60 orders has the rules of the last of 30 vehicles",
+                vehicles(30), "0..9: rule(10, 0, 0) -> #", "0..29: order(#) -> #",
+                "0..29: done(#) -> 0", "0..29: order(#)", "read(29, 4, 0)",
+                "0..8: work(59, true, #)", "done(59) -> 0", "left(29, 0, 0) -> 10",
+                "left(29, 8, 0) -> 10", "left(29, 9, 0) -> 6");
         sentence("Terms: the open defects of an order are repaired, and no others",
                 "vehicle(0, false)", "0..3: defect(0, true) -> #", "order(0)",
                 "work(0, false, 1)", "work(0, false, 3)", "done(0)", "defectAt(0, 0) -> 0",
@@ -490,6 +521,11 @@ public final class ServiceRowsBoundaries {
                 "defectAt(2, 0) -> 1", "test(0, 2, 2, 3) -> 1", "defectAt(0, 0) -> 2",
                 "defectAt(1, 0) -> 0", "defectAt(2, 0) -> 2", "defectAt(3, 0) -> 0",
                 "defectAt(4, 0) -> 1");
+        sentence("10: the last of 100 defects is gone too",
+                "vehicle(0, false)", "0..98: defect(0, false) -> #", "defect(0, true) -> 99",
+                "order(0)", "work(0, false, 99) -> 1", "test(0, 0, 0, 0) -> 1", "done(0)",
+                "defectAt(99, 0) -> 1", "test(0, 0, 0, 0) -> 1", "defectAt(99, 0) -> 2",
+                "defectAt(98, 0) -> 0");
         sentence("11: an end of -1 is none",
                 "vehicle(0, false)", "certificate(0, 3, 0)", "barred(0) -> 3",
                 "certificate(0, 3, -1) -> ok", "barred(0) -> 0", "day(99999)", "barred(0) -> 0");
@@ -546,7 +582,9 @@ public final class ServiceRowsBoundaries {
         sentence("13: state, the order is done",
                 "vehicle(0, false)", "rule(1, 0, 0)", "defect(0, true)", "order(0)", "done(0)",
                 "work(0, true, 0) -> state", "work(0, false, 0) -> state", "order(0)",
-                "work(0, false, 0) -> state", "work(1, true, 0) -> 1", "work(1, false, 0) -> 2");
+                "work(0, false, 0) -> state", "work(1, true, 0) -> 1", "work(1, false, 0) -> 2",
+                "work(0, false, 0) -> state", "work(1, false, 0) -> state", "done(1)",
+                "defectAt(0, 0) -> 1");
         sentence("13: state, the defect is another vehicle's",
                 vehicles(2), "defect(0, true)", "defect(1, true)", "order(0)", "order(1)",
                 "work(0, false, 1) -> state", "work(1, false, 0) -> state",
@@ -723,6 +761,9 @@ public final class ServiceRowsBoundaries {
                 "vehicle(5, false)", "vehicle(4, true)", "vehicle(4, true)", "vehicle(4, true)",
                 "spare(0) -> 1", "order(1)", "spare(0) -> 2", "order(2)", "spare(0) -> 3",
                 "done(0)", "spare(0) -> 1");
+        sentence("19: the last of 30 vehicles, and none behind it",
+                vehicles(29), "vehicle(9, true) -> 29", "spare(0) -> 29", "spare(28) -> 29",
+                "spare(29) -> -1", "order(29)", "spare(0) -> -1");
         sentence("19: -1 for none",
                 "vehicle(5, false)", "spare(0) -> -1", "vehicle(5, false)", "spare(0) -> -1",
                 "vehicle(5, true)", "spare(0) -> 2", "order(2)", "spare(0) -> -1");
@@ -733,7 +774,13 @@ public final class ServiceRowsBoundaries {
                 "oil(0, 0) -> unknown", vehicles(2), "oil(-1, 0) -> unknown",
                 "oil(2, 0) -> unknown", "oil(MIN, 0) -> unknown", "oil(MAX, 0) -> unknown",
                 "oil(0, 5) -> 5", "oil(1, 7) -> 7", "oil(0, 0) -> 5");
-        // "no room" cannot be reached by 512 calls: ServiceRowsPromises has it, with more of them
+        // 512 calls cannot bring so much oil: here the class does more than is promised
+        sentenceOf(11000, "20: no room, above 1,000,000,000",
+                vehicles(2), "1..9999: oil(0, 100000) -> #00000", "oil(0, 1) -> 999900001",
+                "oil(0, 100000) -> room", "oil(0, 0) -> 999900001", "oil(0, 99999) -> 1000000000",
+                "oil(0, 1) -> room", "oil(0, 100001) -> range", "oil(2, 1) -> unknown",
+                "oil(0, 0) -> 1000000000", "oil(1, 100000) -> 100000", "read(0, 999999, 0)",
+                "oilPer(0, 0) -> 100000000000", "oilPer(0, 1) -> 999999");
         sentence("20: range 0 .. 100,000",
                 "vehicle(0, false)", "oil(0, MIN) -> range", "oil(0, -1) -> range",
                 "oil(0, 100001) -> range", "oil(0, MAX) -> range", "oil(0, 0) -> 0",

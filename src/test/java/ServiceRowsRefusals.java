@@ -307,11 +307,33 @@ public final class ServiceRowsRefusals {
                 "part(2, 6, 1, 8) -> unknown");
     }
 
+    /** Order 0 is done and order 1 is open, both of vehicle 0; defect 0 and rule 0 are in 1. */
+    private static void secondOrderRefusals() {
+        Scene scene = new Scene("second order", Scenes.calls("vehicle(0, false)",
+                "0..2: rule(100, 0, 0)", "0..2: defect(0, true)", "budget(9)", "order(0)",
+                "work(0, true, 1)", "part(0, 0, 1, 2)", "read(0, 10, 0)", "done(0)",
+                "read(0, 20, 0)", "order(0)", "work(1, true, 0)", "work(1, false, 0)",
+                "part(1, 0, 1, 3)"));
+        scene.asks("0..2: work(1, true, #)", "0..2: work(1, false, #)", "done(1)", "count(1)",
+                "0..2: defectAt(#, 0)", "0..2: left(0, #, 0)");
+        scene.asks("done(1)", "count(1)", "0..2: defectAt(#, 0)", "0..2: left(0, #, 0)",
+                "order(0)", "0..2: work(2, true, #)", "0..2: work(2, false, #)", "done(2)",
+                "0..2: defectAt(#, 0)", "0..2: left(0, #, 0)");
+        refuses(scene,
+                "work(0, true, 0) -> state", "work(0, true, 1) -> state",
+                "work(0, true, 2) -> state", "work(0, false, 0) -> state",
+                "work(0, false, 1) -> state", "part(0, 0, 1, 0) -> state",
+                "part(0, 0, 1, 4) -> state", "part(0, 0, 1, 5) -> state",
+                "part(1, 0, 1, 5) -> state", "done(0) -> state", "work(1, true, 0) -> state",
+                "work(1, false, 0) -> state");
+    }
+
     public static void main(String[] args) {
         emptyRefusals(emptyScene());
         middleRefusals(middleScene());
         fullRefusals(fullScene());
         partsFullRefusals();
+        secondOrderRefusals();
         System.out.println(refusals + " refusals, " + wrong + " things wrong");
         if (wrong != 0) {
             System.exit(1);
